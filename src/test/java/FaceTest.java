@@ -20,6 +20,7 @@ public final class FaceTest {
         privateNamesAreTheirOwn();
         sourceKeepsToTheLanguage();
         everyChangeOf512CallsIsTaken();
+        laterChangesTakeNothingMore();
         noCallEverThrows();
         checks.end();
     }
@@ -97,10 +98,10 @@ public final class FaceTest {
         checks.about("512 calls");
         PastTree t = new PastTree(0, 0);
         t.make(0, 0, false);
-        for (int i = 1; i < 511; i++) {
-            t.write(1, i % 4, i);
+        for (int i = 1; i < 512; i++) {
+            checks.due("write", t.write(1, i % 4, i), 1);
         }
-        checks.due("the 512th call", t.sync(), 511);
+        checks.due("all were taken", t.count(2), 512);
         PastTree lost = new PastTree(0, 0);
         for (int i = 0; i < 256; i++) {
             checks.due("make", lost.make(0, 0, i % 2 == 0), 1);
@@ -113,6 +114,28 @@ public final class FaceTest {
             checks.due("write", tall.write(1, 0, i), i + 1);
         }
         checks.due("the 512th call", tall.read(254999, 1, 0), 254);
+    }
+
+    /** The document leaves these answers free; rule 12 of LANGUAGE.md asks that what is kept has an end. */
+    private static void laterChangesTakeNothingMore() {
+        checks.about("after 512 changes");
+        PastTree t = new PastTree(0, 0);
+        t.make(0, 0, false);
+        t.make(0, 1, false);
+        t.tick(1);
+        t.remove(0, 1);
+        for (int i = 3; i < 512; i++) {
+            t.write(1, 0, i);
+        }
+        checks.due("make", t.make(0, 2, true), PastTree.FULL);
+        checks.due("remove", t.remove(0, 0), PastTree.FULL);
+        checks.due("move", t.move(0, 0, 0, 2), PastTree.FULL);
+        checks.due("write", t.write(1, 0, 1), PastTree.FULL);
+        checks.due("turnBack", t.turnBack(1, 0), PastTree.FULL);
+        checks.due("putBack", t.putBack(0, 1, 0), PastTree.FULL);
+        checks.due("count(2)", t.count(2), 512);
+        checks.due("crash", t.crash(), 512);
+        checks.due("make after the crash", t.make(0, 0, true), PastTree.FULL);
     }
 
     private static void noCallEverThrows() {

@@ -23,6 +23,7 @@ public final class TreeTest {
         moveMoves();
         moveRefuses();
         moveRefusesToItsOwnInside();
+        namesOfOneFolderStayOutOfAnother();
         putBackPutsBack();
         putBackRefuses();
         lookAndNextSeeThePast();
@@ -45,7 +46,7 @@ public final class TreeTest {
         due("below(0, 0)", t.below(0, 0), 0);
     }
 
-    /** Versions at the times 0, 1 and then the given one; thins at the last. */
+    /** Versions at the times 0 and step; thinned so much later as wait says. */
     private static int thinnedOfTwo(PastTree t, int step, int wait) {
         t.make(0, 0, false);
         for (int gone = 0; gone < step; gone += Math.min(1000, step - gone)) {
@@ -268,6 +269,32 @@ public final class TreeTest {
         due("below(0, 0)", t.below(0, 0), 23);
         due("below(0, 23)", t.below(0, 23), 21);
         due("below(0, 22)", t.below(0, 22), 0);
+    }
+
+    /** Name 8 of the root must not be taken for name 0 of node 1, nor name -1 of node 1 for name 7 of the root. */
+    private static void namesOfOneFolderStayOutOfAnother() {
+        checks.about("promises 3 to 5 and 8 to 10, names out of range");
+        PastTree t = new PastTree(0, 0);
+        t.make(0, 0, true);
+        t.make(1, 0, false);
+        t.make(0, 7, false);
+        due("remove(0, 8)", t.remove(0, 8), REFUSED);
+        due("remove(1, -1)", t.remove(1, -1), REFUSED);
+        due("move(0, 8, 0, 1)", t.move(0, 8, 0, 1), REFUSED);
+        due("move(1, -1, 0, 1)", t.move(1, -1, 0, 1), REFUSED);
+        due("look(0, 0, 8)", t.look(0, 0, 8), REFUSED);
+        due("look(0, 1, -1)", t.look(0, 1, -1), REFUSED);
+        due("next(0, 0, 8)", t.next(0, 0, 8), REFUSED);
+        due("next(0, 1, -1)", t.next(0, 1, -1), REFUSED);
+        due("count(2)", t.count(2), 3);
+        t.tick(1);
+        t.remove(1, 0);
+        t.remove(0, 7);
+        due("putBack(0, 8, 0)", t.putBack(0, 8, 0), REFUSED);
+        due("putBack(1, -1, 0)", t.putBack(1, -1, 0), REFUSED);
+        due("make(0, 8, true)", t.make(0, 8, true), REFUSED);
+        due("make(1, -1, true)", t.make(1, -1, true), REFUSED);
+        due("count(2)", t.count(2), 5);
     }
 
     private static void putBackPutsBack() {
