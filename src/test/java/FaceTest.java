@@ -19,6 +19,7 @@ public final class FaceTest {
         faceIsAsDue();
         privateNamesAreTheirOwn();
         sourceKeepsToTheLanguage();
+        objectsAreApart();
         everyChangeOf512CallsIsTaken();
         laterChangesTakeNothingMore();
         noCallEverThrows();
@@ -92,6 +93,23 @@ public final class FaceTest {
             checks.due(one, Pattern.compile(one).matcher(code).find() ? 1 : 0, 0);
         }
         checks.due("characters above 127", source.chars().filter(c -> c > 127).count(), 0);
+    }
+
+    private static void objectsAreApart() {
+        checks.about("two objects");
+        PastTree one = new PastTree(0, 1);
+        PastTree other = new PastTree(1000, 0);
+        one.make(0, 0, false);
+        one.tick(1);
+        one.write(1, 0, 5);
+        one.tick(1);
+        checks.due("the other's clock", other.count(0), 0);
+        checks.due("the other's nodes", other.count(1), 1);
+        checks.due("the other's changes", other.sync(), 0);
+        checks.due("the one's are not durable by that", one.count(3), 2);
+        checks.due("the one's rule", one.thin(1), 1);
+        checks.due("the other's crash", other.crash(), 0);
+        checks.due("leaves the one", one.read(2, 1, 0), 5);
     }
 
     private static void everyChangeOf512CallsIsTaken() {

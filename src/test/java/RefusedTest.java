@@ -164,6 +164,7 @@ public final class RefusedTest {
         for (int folder : wrongFolders()) {
             refused("move(" + folder + ", 0, 0, 1)", t -> t.move(folder, 0, 0, 1));
             refused("move(1, 0, " + folder + ", 1)", t -> t.move(FOLDER, 0, folder, 1));
+            refused("move(0, 7, " + folder + ", 1)", t -> t.move(0, 7, folder, 1));
         }
         for (int name : WRONG_NAMES) {
             refused("move(0, " + name + ", 0, 1)", t -> t.move(0, name, 0, 1));
