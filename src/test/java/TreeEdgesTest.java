@@ -40,6 +40,7 @@ public final class TreeEdgesTest {
         putBackNeverMakesARing();
         putBackPutsBackAnOlderPlace();
         putBackAnswersTheNode();
+        putBackTellsNamesFromNodes();
         lookTakesItsEnds();
         lookAnswers0IfThereWasNone();
         nextTakesTheNameItself();
@@ -511,6 +512,22 @@ public final class TreeEdgesTest {
         for (int i = 1; i < 4; i++) {
             due("the one of time " + (i - 1), t.putBack(0, 0, i - 1), i);
             t.remove(0, 0);
+        }
+    }
+
+    private static void putBackTellsNamesFromNodes() {
+        checks.about("promise 8, a name that is the node's number is no node");
+        PastTree t = new PastTree(0, 0);
+        for (int i = 1; i < 8; i++) {
+            t.make(0, i, i % 2 == 0);
+        }
+        t.tick(1);
+        for (int i = 1; i < 8; i++) {
+            t.remove(0, i);
+        }
+        for (int i = 1; i < 8; i++) {
+            due("putBack(0, " + i + ", 0)", t.putBack(0, i, 0), i);
+            due("look(1, 0, " + i + ")", t.look(1, 0, i), i);
         }
     }
 
